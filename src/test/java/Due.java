@@ -1,0 +1,64 @@
+/** Counts and prints the answers that are not the ones that are due. */
+final class Due {
+    static final String ROW_OUTSIDE = "throws.ArrayIndexOutOfBoundsException";
+
+    private static int wrong = 0;
+    private static int asked = 0;
+
+    private Due() {
+    }
+
+    static void same(String call, Object got, Object want) {
+        asked++;
+        if (!want.equals(got)) {
+            wrong++;
+            System.out.println(call + " answered " + got + ", due is " + want);
+        }
+    }
+
+    static void is(String call, boolean got) {
+        same(call, got, true);
+    }
+
+    static void not(String call, boolean got) {
+        same(call, got, false);
+    }
+
+    static void number(String call, long got, long want) {
+        same(call, got, want);
+    }
+
+    /** What litres answers as a text, an exception too; one that the machine threw is told apart. */
+    static String litres(MeterSeals seals, int meter, int row, int part) {
+        try {
+            return Long.toString(seals.litres(meter, row, part));
+        } catch (ArrayIndexOutOfBoundsException thrown) {
+            boolean byMachine = !"no such row".equals(thrown.getMessage());
+            return byMachine ? "the machine threw " + thrown.getMessage() : ROW_OUTSIDE;
+        }
+    }
+
+    static String fraction(MeterSeals seals, int meter, int row) {
+        return litres(seals, meter, row, 0) + "/" + litres(seals, meter, row, 1);
+    }
+
+    /** The whole roll as a text; the bytes at both ends outside it must be NONE. */
+    static String roll(MeterSeals seals, int meter) {
+        StringBuilder text = new StringBuilder();
+        int length = 0;
+        for (int b = seals.roll(meter, length); b != MeterSeals.NONE; b = seals.roll(meter, length)) {
+            text.append((char) b);
+            length++;
+        }
+        number("roll(" + meter + ", -1)", seals.roll(meter, -1), MeterSeals.NONE);
+        number("roll behind its end", seals.roll(meter, length + 1), MeterSeals.NONE);
+        return text.toString();
+    }
+
+    static void end(String test) {
+        System.out.println(test + ": " + asked + " answers, " + wrong + " not as due");
+        if (wrong != 0) {
+            System.exit(1);
+        }
+    }
+}
