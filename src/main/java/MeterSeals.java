@@ -134,7 +134,7 @@ public final class MeterSeals {
     }
 
     private Meter find(int meter) {
-        return meter >= 0 && meter < meterCount && meter < MOST_METERS ? meters[meter] : null;
+        return meter >= 0 && meter < meterCount ? meters[meter] : null;
     }
 
     private static boolean within(long value, long least, long most) {
