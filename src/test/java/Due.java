@@ -33,9 +33,15 @@ final class Due {
         try {
             return Long.toString(seals.litres(meter, row, part));
         } catch (ArrayIndexOutOfBoundsException thrown) {
-            boolean byMachine = !"no such row".equals(thrown.getMessage());
-            return byMachine ? "the machine threw " + thrown.getMessage() : ROW_OUTSIDE;
+            return byMachine(thrown) ? "the machine threw " + thrown.getMessage() : ROW_OUTSIDE;
         }
+    }
+
+    /** The machine's own has a text of its own or, from code that it compiled, no trace at all. */
+    private static boolean byMachine(ArrayIndexOutOfBoundsException thrown) {
+        String text = thrown.getMessage();
+        return thrown.getStackTrace().length == 0
+            || (text != null && text.matches("Index -?\\d+ out of bounds for length \\d+"));
     }
 
     static String fraction(MeterSeals seals, int meter, int row) {

@@ -3,15 +3,20 @@ import java.math.BigInteger;
 
 /**
  * The sums themselves. No call answers one, and a check alone can't tell one good formula from
- * another, so they are read from inside the object.
+ * another, so they are read from inside the object. How they are held there is free: a class that
+ * holds them otherwise breaks no promise, and is not asked.
  */
 public final class SumsTest {
     private static final BigInteger MODULUS = BigInteger.ONE.shiftLeft(64);
     private static final BigInteger FACTOR = BigInteger.valueOf(1_099_511_628_211L);
 
     public static void main(String[] args) throws ReflectiveOperationException {
-        for (long key : new long[] {0, 1, -1, 12345, Long.MIN_VALUE, Long.MAX_VALUE}) {
-            sumsOfAllKinds(key);
+        try {
+            for (long key : new long[] {0, 1, -1, 12345, Long.MIN_VALUE, Long.MAX_VALUE}) {
+                sumsOfAllKinds(key);
+            }
+        } catch (NoSuchFieldException thrown) {
+            System.out.println("SumsTest: NOT ASKED, the class has no field " + thrown.getMessage());
         }
         Due.end("SumsTest");
     }
