@@ -2,10 +2,31 @@
 final class Due {
     static final String ROW_OUTSIDE = "throws.ArrayIndexOutOfBoundsException";
 
+    /** An object's calls don't reach further, so a roll without an end is not asked for ever. */
+    private static final int MOST_BYTES = 500;
+    private static final long MOST_MINUTES = 10;
+
     private static int wrong = 0;
     private static int asked = 0;
 
+    static {
+        Thread watch = new Thread(Due::endLateTest);
+        watch.setDaemon(true);
+        watch.start();
+    }
+
     private Due() {
+    }
+
+    /** A call that does not end is a fault like a wrong answer, and must be told like one. */
+    private static void endLateTest() {
+        try {
+            Thread.sleep(MOST_MINUTES * 60_000);
+        } catch (InterruptedException thrown) {
+            return;
+        }
+        System.out.println("the test has not ended after " + MOST_MINUTES + " minutes");
+        Runtime.getRuntime().halt(1);
     }
 
     static void same(String call, Object got, Object want) {
@@ -51,13 +72,13 @@ final class Due {
     /** The whole roll as a text; the bytes at both ends outside it must be NONE. */
     static String roll(MeterSeals seals, int meter) {
         StringBuilder text = new StringBuilder();
-        int length = 0;
-        for (int b = seals.roll(meter, length); b != MeterSeals.NONE; b = seals.roll(meter, length)) {
+        int b = seals.roll(meter, 0);
+        while (b != MeterSeals.NONE && text.length() < MOST_BYTES) {
             text.append((char) b);
-            length++;
+            b = seals.roll(meter, text.length());
         }
         number("roll(" + meter + ", -1)", seals.roll(meter, -1), MeterSeals.NONE);
-        number("roll behind its end", seals.roll(meter, length + 1), MeterSeals.NONE);
+        number("roll behind its end", seals.roll(meter, text.length() + 1), MeterSeals.NONE);
         return text.toString();
     }
 

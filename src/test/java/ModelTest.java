@@ -9,6 +9,7 @@ import java.util.TreeMap;
 public final class ModelTest {
     private static final int RUNS = 1500;
     private static final int CALLS = 512;
+    private static final int FILLING_CALLS = 250;
     private static final long[] EDGES = {
         Long.MIN_VALUE, Long.MAX_VALUE, Integer.MIN_VALUE, Integer.MAX_VALUE,
         -51, -50, -2, -1, 0, 1, 2, 3, 7, 8, 15, 16, 17, 149, 150, 151, 199, 200, 201, 998, 999, 1000,
@@ -46,11 +47,32 @@ public final class ModelTest {
     public static void main(String[] args) {
         for (int seed = 0; seed < RUNS; seed++) {
             ModelTest run = new ModelTest(seed);
+            int filled = seed % 3 == 1 ? FILLING_CALLS : 0;
             for (int call = 0; call < CALLS; call++) {
-                run.call("run " + seed + " call " + call + ": ");
+                String at = "run " + seed + " call " + call + ": ";
+                if (call < filled) {
+                    run.fill(at, call);
+                } else {
+                    run.call(at);
+                }
             }
         }
         Due.end("ModelTest");
+    }
+
+    /** One meter, some lines, then rows alone, so that the run goes on around 200 rows. */
+    private void fill(String at, int call) {
+        if (call == 0) {
+            meter(at);
+        } else if (call < 5) {
+            row(at);
+        } else {
+            switch (random.nextInt(5)) {
+                case 0 -> reset(at);
+                case 1 -> seal(at);
+                default -> pulses(at);
+            }
+        }
     }
 
     private void call(String at) {

@@ -11,6 +11,10 @@ final class View {
     /** What changes the object while it is asked needs the rest of the 512 calls in one piece. */
     private static final int MOST_CALLS_BEFORE = 300;
 
+    /** More than 200 rows can have; a class that answers on behind them is not asked for ever. */
+    private static final int MOST_GAPS = 201;
+    private static final int MOST_BYTES = 7_000;
+
     private final List<String> before;
     private final StringBuilder text = new StringBuilder();
     private MeterSeals x;
@@ -76,7 +80,7 @@ final class View {
             note("check " + meter + " " + row);
         }
         String answer = "";
-        for (int k = 0; !answer.equals("-1"); k++) {
+        for (int k = 0; k < MOST_GAPS && !answer.equals("-1"); k++) {
             answer = note("gap " + meter + " " + k + " 0");
             note("gap " + meter + " " + k + " 1");
         }
@@ -86,7 +90,7 @@ final class View {
 
     private void wholeRoll(int meter) {
         String answer = ask("roll " + meter + " 0");
-        for (int i = 1; !answer.equals("-1"); i++) {
+        for (int i = 1; i < MOST_BYTES && !answer.equals("-1"); i++) {
             text.append((char) Integer.parseInt(answer));
             answer = ask("roll " + meter + " " + i);
         }
